@@ -115,10 +115,12 @@ public final class StreamLink {
         // What arrives is answered in the other end's rows, so this packet is not written over.
         Packet packet = row.oldest();
         row.removeOldest();
-        if (end == CLIENT) {
-            arriveAtServer(path, packet);
-        } else {
-            arriveAtClient(path, packet);
+        int at = ENDS - 1 - end;
+        End target = ends[at];
+        if (packet.kind <= ECHOACK) {
+            takeMaking(at, path, packet);
+        } else if (target.state == UP && packet.tag == target.ownTag) {
+            target.takeWhenUp(path, packet, now);
         }
         return packet.kind;
     }
@@ -132,7 +134,7 @@ public final class StreamLink {
             return false;
         }
         if (twice) {
-            row.add(row.oldest());
+            row.addNew().copyFrom(row.oldest());
         } else {
             row.removeOldest();
         }
@@ -150,11 +152,10 @@ public final class StreamLink {
         if (from.paths[0].row.isFull()) {
             return false;
         }
-        Packet packet = from.draftOf(kind);
+        Packet packet = from.post(0, kind);
         packet.tag = kind == INIT ? 0 : tag;
         packet.newTag = a;
         packet.cookie.set(a, b, c, d);
-        from.post(0);
         return true;
     }
 
@@ -256,23 +257,16 @@ public final class StreamLink {
         return mixIn(h, SEAL_END);
     }
 
-    private void arriveAtServer(int path, Packet packet) {
-        if (packet.kind == INIT) {
+    /** Each of the four packets that make a connection means something at one end alone. */
+    private void takeMaking(int at, int path, Packet packet) {
+        if (packet.kind == INIT && at == SERVER) {
             answerInit(path, packet.newTag);
-        } else if (packet.kind == ECHO) {
-            answerEcho(path, packet);
-        } else {
-            ends[SERVER].takeWhenUp(path, packet, now);
-        }
-    }
-
-    private void arriveAtClient(int path, Packet packet) {
-        if (packet.kind == INITACK) {
+        } else if (packet.kind == INITACK && at == CLIENT) {
             ends[CLIENT].takeInitAck(path, packet, now);
-        } else if (packet.kind == ECHOACK) {
+        } else if (packet.kind == ECHO && at == SERVER) {
+            answerEcho(path, packet);
+        } else if (packet.kind == ECHOACK && at == CLIENT) {
             ends[CLIENT].takeEchoAck(packet);
-        } else {
-            ends[CLIENT].takeWhenUp(path, packet, now);
         }
     }
 
@@ -281,11 +275,10 @@ public final class StreamLink {
             return;
         }
         int serverTag = serverTagFor(clientTag);
-        Packet answer = ends[SERVER].draftOf(INITACK);
+        Packet answer = ends[SERVER].post(path, INITACK);
         answer.tag = clientTag;
         answer.newTag = serverTag;
         answer.cookie.set(clientTag, serverTag, now, sealOf(clientTag, serverTag, now));
-        ends[SERVER].post(path);
     }
 
     private void answerEcho(int path, Packet echo) {
@@ -300,8 +293,7 @@ public final class StreamLink {
             server.comeUp();
         }
         if (server.ownTag == cookie.serverTag && server.otherTag == cookie.clientTag) {
-            server.draftOf(ECHOACK);
-            server.post(path);
+            server.post(path, ECHOACK);
         }
     }
 
@@ -349,7 +341,10 @@ public final class StreamLink {
         }
 
         void copyFrom(Cookie from) {
-            set(from.clientTag, from.serverTag, from.tick, from.seal);
+            clientTag = from.clientTag;
+            serverTag = from.serverTag;
+            tick = from.tick;
+            seal = from.seal;
         }
     }
 
@@ -407,6 +402,7 @@ public final class StreamLink {
     /** Packets under way, made once and written over, so that a call makes no objects. */
     private static final class Row {
         private final Packet[] packets = new Packet[ROW_PACKETS];
+        private final Packet lost = new Packet();
         private int start = 0;
         int count = 0;
 
@@ -431,11 +427,14 @@ public final class StreamLink {
             }
         }
 
-        void add(Packet packet) {
-            if (!isFull()) {
-                packets[(start + count) % ROW_PACKETS].copyFrom(packet);
-                count++;
+        /** A packet at the end of the row, to be filled; one that is lost if the row is full. */
+        Packet addNew() {
+            if (isFull()) {
+                return lost;
             }
+            Packet added = packets[(start + count) % ROW_PACKETS];
+            count++;
+            return added;
         }
     }
 
@@ -737,11 +736,6 @@ public final class StreamLink {
             return number <= latest || slots[slotOf(number)].number == number;
         }
 
-        private boolean isUnready(int number) {
-            int slot = slotOf(number);
-            return unready[slot] && slots[slot].number == number;
-        }
-
         private void makeReady() {
             // Orders grow with the numbers, so a message that becomes ready never lets one with
             // lower numbers go: one way up finds all that may, the lowest first.
@@ -755,14 +749,15 @@ public final class StreamLink {
 
         /** How many words the message has that begins with this number; 0 if it is not whole. */
         private int wholeLength(int number) {
-            if (!isUnready(number) || !slots[slotOf(number)].first) {
+            if (!slots[slotOf(number)].first) {
                 return 0;
             }
             for (int i = 0; i < MESSAGE_WORDS; i++) {
-                if (!isUnready(number + i)) {
+                int slot = slotOf(number + i);
+                if (!unready[slot] || slots[slot].number != number + i) {
                     return 0;
                 }
-                if (slots[slotOf(number + i)].last) {
+                if (slots[slot].last) {
                     return i + 1;
                 }
             }
@@ -798,7 +793,6 @@ public final class StreamLink {
         private final int room;
         private final int limit;
         private final Cookie cookie = new Cookie();
-        private final Packet draft = new Packet();
         private int report = 0;
         private int allErrors = 0;
         private int tries = 0;
@@ -840,20 +834,16 @@ public final class StreamLink {
             inbox.reset();
         }
 
-        /** A packet to be filled and posted, with the tag that most packets have. */
-        Packet draftOf(int kind) {
-            draft.kind = kind;
-            draft.tag = otherTag;
-            return draft;
-        }
-
-        void post(int path) {
-            paths[path].row.add(draft);
+        /** A packet on its way, with the tag that most packets have; the rest is to be filled. */
+        Packet post(int path, int kind) {
+            Packet packet = paths[path].row.addNew();
+            packet.kind = kind;
+            packet.tag = otherTag;
+            return packet;
         }
 
         void postAbort() {
-            draftOf(ABORT);
-            post(pathToUse());
+            post(pathToUse(), ABORT);
         }
 
         void takeInitAck(int path, Packet packet, int now) {
@@ -873,10 +863,8 @@ public final class StreamLink {
             }
         }
 
+        /** A packet of one of the later kinds, with this end's own tag. */
         void takeWhenUp(int path, Packet packet, int now) {
-            if (state != UP || packet.tag != ownTag) {
-                return;
-            }
             switch (packet.kind) {
                 case DATA:
                     takeData(path, packet.word);
@@ -885,8 +873,7 @@ public final class StreamLink {
                     takeSack(packet, now);
                     break;
                 case BEAT:
-                    draftOf(BEATACK).tick = packet.tick;
-                    post(path);
+                    post(path, BEATACK).tick = packet.tick;
                     break;
                 case BEATACK:
                     takeBeatAck(paths[path], packet.tick);
@@ -985,22 +972,20 @@ public final class StreamLink {
         /** The INIT or ECHO that the end waits to have answered. */
         private void postOpening(int path) {
             if (state == WAITING) {
-                Packet init = draftOf(INIT);
+                Packet init = post(path, INIT);
                 init.tag = 0;
                 init.newTag = ownTag;
             } else {
-                draftOf(ECHO).cookie.copyFrom(cookie);
+                post(path, ECHO).cookie.copyFrom(cookie);
             }
-            post(path);
         }
 
         private void takeData(int path, Word word) {
             inbox.take(word);
-            Packet sack = draftOf(SACK);
+            Packet sack = post(path, SACK);
             sack.number = inbox.latest;
             sack.gaps = inbox.gaps();
             sack.window = inbox.window();
-            post(path);
         }
 
         private void takeBeatAck(Path path, int tick) {
@@ -1109,8 +1094,7 @@ public final class StreamLink {
         }
 
         private void putOut(SentWord sent, int path, int now) {
-            draftOf(DATA).word.copyFrom(sent.word);
-            post(path);
+            post(path, DATA).word.copyFrom(sent.word);
             sent.state = OUT;
             sent.lastPath = path;
             sent.strikes = 0;
@@ -1138,8 +1122,7 @@ public final class StreamLink {
         private void postBeat(int path, int now) {
             paths[path].beatOpen = true;
             paths[path].beatTick = now;
-            draftOf(BEAT).tick = now;
-            post(path);
+            post(path, BEAT).tick = now;
         }
 
         private void addError(Path path) {

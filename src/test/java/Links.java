@@ -24,6 +24,8 @@ final class Links {
     static final int TIMER = 5;
     static final int BEAT_OPEN = 6;
 
+    static final int STRANGE_TAG = 987654;
+
     private Links() {
     }
 
@@ -49,6 +51,21 @@ final class Links {
     static StreamLink up(int room, int limit, int key, int tag) {
         StreamLink link = new StreamLink(room, limit, key);
         connect(link, tag);
+        return link;
+    }
+
+    /**
+     * A link at tick 32 that is up with room 16: BEATs on one path got no answer, those on the
+     * other did, so that the first one has three errors and is not active, at both ends.
+     */
+    static StreamLink withOneFailed(int limit, int failed) {
+        StreamLink link = up(16, limit, 1, 12);
+        for (int i = 0; i < 4; i++) {
+            ticks(link, 8);
+            settle(link, 1 - failed);
+            lose(link, 0, failed, 8);
+            lose(link, 1, failed, 8);
+        }
         return link;
     }
 
@@ -79,10 +96,25 @@ final class Links {
     }
 
     static void loseAll(StreamLink link) {
-        for (int end = 0; end < 2; end++) {
-            for (int path = 0; path < 2; path++) {
-                lose(link, end, path, 8);
-            }
+        loseAllFrom(link, 0);
+        loseAllFrom(link, 1);
+    }
+
+    static void loseAllFrom(StreamLink link, int end) {
+        lose(link, end, 0, 8);
+        lose(link, end, 1, 8);
+    }
+
+    /** The first packet of a row comes to its end instead. */
+    static void toTheEnd(StreamLink link, int end, int path) {
+        link.alter(end, path, true);
+        link.alter(end, path, false);
+    }
+
+    /** A stranger's ABORTs, with a tag that is nobody's, until 8 packets go to an end on path 0. */
+    static void fillRowTo(StreamLink link, int end) {
+        for (int i = 0; i < 8; i++) {
+            link.forge(end, 8, STRANGE_TAG, 0, 0, 0, 0);
         }
     }
 

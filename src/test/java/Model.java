@@ -560,6 +560,12 @@ final class Model {
         return pair(end) && pair(path) ? ends[end].rows.get(path).size() : -1;
     }
 
+    /** How many numbers an end has given, so that a test knows which words are worth asking for. */
+    int given(int end) {
+        Connection c = ends[end].connection;
+        return c == null ? 0 : c.given;
+    }
+
     int word(int end, int number) {
         Connection c = pair(end) ? ends[end].connection : null;
         Sending word = c == null ? null : c.words.get(number);

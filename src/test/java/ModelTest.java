@@ -3,11 +3,17 @@ import java.util.Arrays;
 import java.util.List;
 import java.util.Random;
 
-/** Promises 1 to 16 together: long runs of calls, held against the plain model call by call. */
+/**
+ * Promises 1 to 16 together: runs of calls, held against the plain model call by call. No object
+ * has more than 512 calls, since what later ones answer is free.
+ */
 public final class ModelTest {
-    private static final int RUNS = 600;
+    private static final int RUNS = 20_000;
     private static final int CALLS = 512;
-    private static final int MOST_NUMBER = 150;
+    /** Words that are not gone are at most 24; some gone ones and one to come are asked for, too. */
+    private static final int WORDS = 30;
+    /** What lookAtAll asks of both ends: about, path and waiting, ready and length, words. */
+    private static final int FULL_LOOK = 2 * (10 + 2 * (7 + 1) + 3 * 2 + WORDS);
     private static final int[] ODD = {Integer.MIN_VALUE, -2, -1, 0, 1, 2, 3, 4, 5, Integer.MAX_VALUE};
 
     private static int sent = 0;
@@ -28,8 +34,8 @@ public final class ModelTest {
             + ", marked " + marked + ", held " + held + ", paths inactive " + inactive
             + ", up again " + upAgain
             + ", reports " + REPORTS[1] + " " + REPORTS[2] + " " + REPORTS[3]);
-        boolean sawAll = sent > RUNS && reads > RUNS && marked > RUNS && held > RUNS
-            && inactive > RUNS && upAgain > RUNS / 10
+        boolean sawAll = sent > RUNS && reads > RUNS && marked > RUNS / 10 && held > RUNS / 10
+            && inactive > RUNS / 20 && upAgain > RUNS / 10
             && REPORTS[1] > 0 && REPORTS[2] > 0 && REPORTS[3] > 0;
         if (!sawAll) {
             System.out.println("model: the runs saw too little");
@@ -37,7 +43,7 @@ public final class ModelTest {
         }
     }
 
-    /** One run: a seed decides its numbers and how well its paths carry. */
+    /** One run: a seed decides its numbers, how well its paths carry and how often it looks. */
     private static final class Run {
         private final int seed;
         private final Random random;
@@ -48,8 +54,12 @@ public final class ModelTest {
         private final int loss;
         private final int tickiness;
         private final int readiness;
+        private final int looks;
+        private int made = 0;
         private int now = 0;
         private int nextTag = 1;
+        private int stateBefore = 0;
+        private boolean wasUp = false;
         private boolean wrong = false;
 
         Run(int seed) {
@@ -62,34 +72,48 @@ public final class ModelTest {
             model = new Model(room, limit, key);
             calls.add("new StreamLink(" + room + ", " + limit + ", " + key + ")");
             loss = random.nextInt(40);
-            tickiness = 2 + random.nextInt(25);
+            tickiness = random.nextInt(4) == 0 ? 30 + random.nextInt(30) : 2 + random.nextInt(25);
             readiness = random.nextInt(20);
+            looks = random.nextInt(4) == 0 ? 2 : 0;
         }
 
+        /** Many runs end early, so that all that can be seen is looked at in many moments. */
         boolean agrees() {
-            int wasState = 0;
-            boolean wasUp = false;
-            for (int i = 0; i < CALLS && !wrong; i++) {
-                call();
-                watch();
-                int state = model.about(0, 0);
-                if (state == 3 && wasState != 3) {
-                    upAgain += wasUp ? 1 : 0;
-                    wasUp = true;
-                }
-                if (state == 0 && wasState != 0) {
-                    REPORTS[model.about(0, 3)]++;
-                }
-                wasState = state;
+            int most = CALLS - FULL_LOOK;
+            int length = random.nextBoolean() ? most : 20 + random.nextInt(most - 19);
+            if (random.nextInt(4) > 0) {
+                connect();
             }
-            if (wrong) {
+            while (made < length && !wrong) {
+                call();
+                countWhatHappened();
+                for (int i = 0; i < looks && made < length; i++) {
+                    look();
+                }
+            }
+            lookAtAll();
+            if (wrong || made > CALLS) {
                 System.out.println("model: seed " + seed + " after these calls:");
                 calls.forEach(call -> System.out.println("  " + call));
+                return false;
             }
-            return !wrong;
+            return true;
+        }
+
+        private void countWhatHappened() {
+            int state = model.about(0, 0);
+            if (state == 3 && stateBefore != 3) {
+                upAgain += wasUp ? 1 : 0;
+                wasUp = true;
+            }
+            if (state == 0 && stateBefore != 0) {
+                REPORTS[model.about(0, 3)]++;
+            }
+            stateBefore = state;
         }
 
         private void due(String call, int got, int want) {
+            made++;
             calls.add(call + " = " + got);
             if (got != want) {
                 wrong = true;
@@ -99,6 +123,15 @@ public final class ModelTest {
 
         private void due(String call, boolean got, boolean want) {
             due(call, got ? 1 : 0, want ? 1 : 0);
+        }
+
+        /** Like due, but the call is told only if its answer is wrong: there are many of these. */
+        private void same(String name, int got, int want, int... arguments) {
+            if (got == want) {
+                made++;
+            } else {
+                due(name + Arrays.toString(arguments), got, want);
+            }
         }
 
         private int odd() {
@@ -143,6 +176,15 @@ public final class ModelTest {
                 forgeOnce();
             } else {
                 rareCall();
+            }
+        }
+
+        /** Both ends come up at once, so that more of the run goes to words and ticks. */
+        private void connect() {
+            openOnce();
+            for (int i = 0; i < 4; i++) {
+                int end = i % 2;
+                due("deliver(" + end + ", 0)", link.deliver(end, 0), model.deliver(end, 0));
             }
         }
 
@@ -193,41 +235,68 @@ public final class ModelTest {
             }
         }
 
-        /** Every answer that changes nothing, after each call, with numbers that are not there too. */
-        private void watch() {
-            for (int end = -1; end <= 2; end++) {
-                for (int what = -1; what <= 10; what++) {
-                    same("about", link.about(end, what), model.about(end, what), end, what);
+        /** One answer that changes nothing, now and then about what is not there. */
+        private void look() {
+            int end = random.nextInt(-1, 3);
+            switch (random.nextInt(6)) {
+                case 0 -> lookAtAbout(end, random.nextInt(-1, 11));
+                case 1 -> lookAtPath(end, random.nextInt(-1, 3), random.nextInt(-1, 8));
+                case 2 -> lookAtWaiting(end, random.nextInt(-1, 3));
+                case 3 -> lookAtReady(end, random.nextInt(-1, 4));
+                case 4 -> lookAtLength(end, random.nextInt(-1, 4));
+                default -> lookAtWord(end, random.nextInt(-1, 60));
+            }
+        }
+
+        /** Every answer about what is there; FULL_LOOK counts these calls. */
+        private void lookAtAll() {
+            for (int end = 0; end < 2; end++) {
+                for (int what = 0; what <= 9; what++) {
+                    lookAtAbout(end, what);
                 }
-                for (int path = -1; path <= 2; path++) {
-                    watchPath(end, path);
+                for (int path = 0; path < 2; path++) {
+                    lookAtWaiting(end, path);
+                    for (int what = 0; what <= 6; what++) {
+                        lookAtPath(end, path, what);
+                    }
                 }
-                for (int stream = -1; stream <= 3; stream++) {
-                    same("ready", link.ready(end, stream), model.ready(end, stream), end, stream);
-                    same("length", link.length(end, stream), model.length(end, stream), end, stream);
+                for (int stream = 0; stream < 3; stream++) {
+                    lookAtReady(end, stream);
+                    lookAtLength(end, stream);
                 }
-                for (int number = -1; number <= MOST_NUMBER; number++) {
-                    int state = model.word(end, number);
-                    same("word", link.word(end, number), state, end, number);
-                    marked += state == 3 ? 1 : 0;
-                    held += state == 4 ? 1 : 0;
+                for (int i = 0; i < WORDS; i++) {
+                    lookAtWord(end, model.given(end) + 1 - i);
                 }
             }
         }
 
-        private void watchPath(int end, int path) {
+        private void lookAtAbout(int end, int what) {
+            same("about", link.about(end, what), model.about(end, what), end, what);
+        }
+
+        private void lookAtPath(int end, int path, int what) {
+            same("path", link.path(end, path, what), model.path(end, path, what), end, path, what);
+            inactive += what == 3 && model.path(end, path, 1) > 0
+                && model.path(end, path, 3) == 0 ? 1 : 0;
+        }
+
+        private void lookAtWaiting(int end, int path) {
             same("waiting", link.waiting(end, path), model.waiting(end, path), end, path);
-            for (int what = -1; what <= 7; what++) {
-                same("path", link.path(end, path, what), model.path(end, path, what), end, path, what);
-            }
-            inactive += model.path(end, path, 1) > 0 && model.path(end, path, 3) == 0 ? 1 : 0;
         }
 
-        /** Like due, but a call is told only if its answer is wrong: there are many of these. */
-        private void same(String name, int got, int want, int... arguments) {
-            if (got != want) {
-                due(name + Arrays.toString(arguments), got, want);
-            }
+        private void lookAtReady(int end, int stream) {
+            same("ready", link.ready(end, stream), model.ready(end, stream), end, stream);
+        }
+
+        private void lookAtLength(int end, int stream) {
+            same("length", link.length(end, stream), model.length(end, stream), end, stream);
+        }
+
+        private void lookAtWord(int end, int number) {
+            int state = model.word(end, number);
+            same("word", link.word(end, number), state, end, number);
+            marked += state == 3 ? 1 : 0;
+            held += state == 4 ? 1 : 0;
         }
     }
 }

@@ -8,6 +8,8 @@ public final class Promise05AlterTest {
         aCopyGoesToTheEnd();
         aFullRowTakesNoCopy();
         aCopyIsWhole();
+        aCopyOfASackTellsItsGaps();
+        aCopyOfAnAbortHasItsTag();
         CHECK.finish();
     }
 
@@ -104,5 +106,24 @@ public final class Promise05AlterTest {
         link.alter(1, 1, false);
         link.deliver(1, 1);
         CHECK.due("BEAT and BEATACK", link.path(0, 1, Links.BEAT_OPEN), 0);
+    }
+
+    private static void aCopyOfASackTellsItsGaps() {
+        StreamLink link = Links.up(8, 5, 1, 12);
+        link.send(0, 0, false, 40, 2);
+        link.alter(0, 0, false);
+        link.deliver(0, 0);
+        Links.toTheEnd(link, 1, 0);
+        CHECK.due("SACK", link.deliver(1, 0), 5);
+        CHECK.due("word 1 is out", link.word(0, 1), 2);
+        CHECK.due("word 2 is held", link.word(0, 2), 4);
+    }
+
+    private static void aCopyOfAnAbortHasItsTag() {
+        StreamLink link = Links.up(8, 5, 1, 12);
+        link.abort(1);
+        Links.toTheEnd(link, 1, 0);
+        CHECK.due("ABORT", link.deliver(1, 0), 8);
+        CHECK.due("closed by it", link.about(0, Links.REPORT), 3);
     }
 }

@@ -9,6 +9,7 @@ public final class Promise06ForgeTest {
         theOwnTagCannotBeGuessed();
         aFullRowIsRefused();
         aForgedInitIsAnswered();
+        aForgedInitMayTellTagZero();
         aForgedEchoWithAGoodCookie();
         CHECK.finish();
     }
@@ -67,7 +68,18 @@ public final class Promise06ForgeTest {
         CHECK.due("up", link.about(0, Links.STATE) + link.about(1, Links.STATE), 6);
         StreamLink waiting = new StreamLink(8, 5, KEY);
         waiting.open(12);
-        CHECK.due("the own tag when waiting", waiting.forge(0, 8, 12, 0, 0, 0, 0), false);
+        CHECK.due("ABORT with it when waiting", waiting.forge(0, 8, 12, 0, 0, 0, 0), false);
+        CHECK.due("ECHO with it when waiting", waiting.forge(0, 2, 12, 1, 2, 3, 4), false);
+        CHECK.due("tag 0 when waiting", waiting.forge(0, 8, 0, 0, 0, 0, 0), true);
+        waiting.alter(1, 0, false);
+        waiting.deliver(0, 0);
+        waiting.deliver(1, 0);
+        CHECK.due("echoed", waiting.about(0, Links.STATE), Links.ECHOED);
+        CHECK.due("ABORT with it when echoed", waiting.forge(0, 8, 12, 0, 0, 0, 0), false);
+        CHECK.due("ECHO with it when echoed", waiting.forge(0, 2, 12, 1, 2, 3, 4), false);
+        waiting.abort(0);
+        CHECK.due("it is nobody's when closed", waiting.forge(0, 8, 12, 0, 0, 0, 0), true);
+        CHECK.due("but 0 is its own then", waiting.forge(0, 8, 0, 0, 0, 0, 0), false);
     }
 
     private static void aFullRowIsRefused() {
@@ -94,6 +106,14 @@ public final class Promise06ForgeTest {
         CHECK.due("echoed", link.about(0, Links.STATE), Links.ECHOED);
         Links.settle(link, 0);
         CHECK.due("up", link.about(0, Links.STATE), Links.UP);
+    }
+
+    private static void aForgedInitMayTellTagZero() {
+        StreamLink link = new StreamLink(8, 5, KEY);
+        CHECK.due("INIT with tag 0", link.forge(1, 0, 9, 0, 0, 0, 0), true);
+        CHECK.due("it is there", link.waiting(0, 0), 1);
+        CHECK.due("and arrives", link.deliver(0, 0), 0);
+        CHECK.due("but is not answered", link.waiting(1, 0), 0);
     }
 
     private static void aForgedEchoWithAGoodCookie() {

@@ -7,6 +7,8 @@ public final class Promise11AbortTest {
         beforeItIsUpNothingIsSent();
         anEndThatIsUpSendsAnAbort();
         theAbortGoesOnThePathToUse();
+        theAbortGoesOnTheOtherPathIfThePrimaryIsNotActive();
+        theAbortGoesOnThePrimaryPathIfNeitherIsActive();
         CHECK.finish();
     }
 
@@ -68,5 +70,29 @@ public final class Promise11AbortTest {
         CHECK.due("not on path 0", link.waiting(0, 0), 0);
         CHECK.due("ABORT on path 1", link.deliver(0, 1), 8);
         CHECK.due("end 1 is closed", link.about(1, Links.STATE), Links.CLOSED);
+    }
+
+    private static void theAbortGoesOnTheOtherPathIfThePrimaryIsNotActive() {
+        for (int failed = 0; failed < 2; failed++) {
+            StreamLink link = Links.withOneFailed(9, failed);
+            link.primary(0, failed);
+            link.abort(0);
+            CHECK.due("not on the primary path", link.waiting(0, failed), 0);
+            CHECK.due("ABORT on the other", link.deliver(0, 1 - failed), 8);
+        }
+    }
+
+    private static void theAbortGoesOnThePrimaryPathIfNeitherIsActive() {
+        for (int primary = 0; primary < 2; primary++) {
+            StreamLink link = Links.up(8, 9, 1, 12);
+            Links.ticks(link, 32);
+            Links.loseAll(link);
+            CHECK.due("path 0", link.path(0, 0, Links.ACTIVE), 0);
+            CHECK.due("path 1", link.path(0, 1, Links.ACTIVE), 0);
+            link.primary(0, primary);
+            link.abort(0);
+            CHECK.due("not on the other path", link.waiting(0, 1 - primary), 0);
+            CHECK.due("ABORT on the primary one", link.deliver(0, primary), 8);
+        }
     }
 }

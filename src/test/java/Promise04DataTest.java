@@ -14,6 +14,7 @@ public final class Promise04DataTest {
         aWordThatCameBeforeAboveAGapIsDropped();
         aFullRoomTakesTheNextWordOnly();
         gapsReachSixteenFar();
+        aFilledGapLetsFifteenFollow();
         theFurthestGapStrikesAllBelow();
         theSackGoesBackOnItsPath();
         theWindowIsWhatIsLeft();
@@ -256,6 +257,26 @@ public final class Promise04DataTest {
         CHECK.due("and not kept", link.about(1, Links.KEPT), 0);
         CHECK.due("SACK all the same", link.deliver(1, 0), 5);
         CHECK.due("word 29 was not had", link.word(0, 29), 2);
+    }
+
+    private static void aFilledGapLetsFifteenFollow() {
+        StreamLink link = wideOpenLink();
+        for (int number = 13; number <= 28; number++) {
+            link.primary(0, number <= 20 ? 1 : 0);
+            link.send(0, 1, true, 100 + number, 1);
+        }
+        link.alter(0, 1, false);
+        deliverAndRead(link, 1, 7);
+        deliverAndRead(link, 0, 8);
+        Links.loseAllFrom(link, 1);
+        CHECK.due("latest without word 13", link.about(1, Links.LATEST), 12);
+        // No SACK came, so all are marked at 3, and word 13 goes first, on path 0.
+        Links.ticks(link, 3);
+        CHECK.due("word 13", link.deliver(0, 0), 4);
+        CHECK.due("latest", link.about(1, Links.LATEST), 28);
+        CHECK.due("read", link.read(1, 1), 113);
+        CHECK.due("its SACK", link.deliver(1, 0), 5);
+        CHECK.due("tells of all", link.about(0, Links.TO_SEND), 0);
     }
 
     private static void theFurthestGapStrikesAllBelow() {

@@ -6,6 +6,7 @@ public final class TermsUpAndClosedTest {
     public static void main(String[] args) {
         allBeginsAnewAtBothEnds();
         oldWordsAreNotHad();
+        manyOldWordsAreNotHad();
         oldPacketsAreForNobody();
         anEndAloneBeginsAnew();
         closedByAbort();
@@ -132,6 +133,32 @@ public final class TermsUpAndClosedTest {
             Links.settle(link, 0);
             CHECK.due("word 5 is a new one", link.about(1 - end, Links.LATEST), 5);
             CHECK.due("and kept", link.about(1 - end, Links.KEPT), 8);
+        }
+    }
+
+    /** Every number up to 40 comes in both connections; half a message is left from the first. */
+    private static void manyOldWordsAreNotHad() {
+        StreamLink link = Links.up(8, 9, 1, 12);
+        wordsComeOneByOne(link, 31);
+        link.send(0, 0, true, 900, 2);
+        link.deliver(0, 0);
+        CHECK.due("half a message", link.about(1, Links.KEPT), 1);
+        link.abort(0);
+        link.abort(1);
+        Links.loseAll(link);
+        Links.connect(link, 13);
+        wordsComeOneByOne(link, 40);
+        CHECK.due("nothing is kept", link.about(1, Links.KEPT), 0);
+    }
+
+    private static void wordsComeOneByOne(StreamLink link, int count) {
+        for (int number = 1; number <= count; number++) {
+            link.send(0, 0, true, 100 + number, 1);
+            link.deliver(0, 0);
+            CHECK.due("latest", link.about(1, Links.LATEST), number);
+            CHECK.due("ready", link.ready(1, 0), 1);
+            CHECK.due("read", link.read(1, 0), 100 + number);
+            link.deliver(1, 0);
         }
     }
 

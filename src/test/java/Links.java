@@ -26,6 +26,9 @@ final class Links {
 
     static final int STRANGE_TAG = 987654;
 
+    /** Numbers that no end and no path has. */
+    static final int[] NEITHER = {-1, 2, 3, -2, 256, -256, Integer.MIN_VALUE, Integer.MAX_VALUE};
+
     private Links() {
     }
 
@@ -67,6 +70,17 @@ final class Links {
             lose(link, 1, failed, 8);
         }
         return link;
+    }
+
+    /** A link that is up, with one packet, a BEAT, in each of its four rows. */
+    static StreamLink withPacketsInEveryRow() {
+        StreamLink link = up(8, 5, 1, 12);
+        ticks(link, 8);
+        return link;
+    }
+
+    static int packetsUnderWay(StreamLink link) {
+        return link.waiting(0, 0) + link.waiting(0, 1) + link.waiting(1, 0) + link.waiting(1, 1);
     }
 
     static void connect(StreamLink link, int tag) {

@@ -5,6 +5,7 @@ public final class Promise04MakingTest {
 
     public static void main(String[] args) {
         nothingToDeliver();
+        whatIsNotThereHasNothingToDeliver();
         fourPacketsMakeAConnection();
         anInitChangesNothingAtEndOne();
         aTagThatEqualsTheMixedKey();
@@ -28,6 +29,18 @@ public final class Promise04MakingTest {
                 CHECK.due("deliver(" + end + ", " + path + ")", link.deliver(end, path), -1);
             }
         }
+    }
+
+    private static void whatIsNotThereHasNothingToDeliver() {
+        StreamLink link = Links.withPacketsInEveryRow();
+        for (int number : Links.NEITHER) {
+            CHECK.due("no end, no path " + number, link.deliver(number, number), -1);
+            for (int there = 0; there < 2; there++) {
+                CHECK.due("no end " + number, link.deliver(number, there), -1);
+                CHECK.due("no path " + number, link.deliver(there, number), -1);
+            }
+        }
+        CHECK.due("nothing came", Links.packetsUnderWay(link), 4);
     }
 
     private static void fourPacketsMakeAConnection() {

@@ -4,6 +4,7 @@ public final class Promise05AlterTest {
 
     public static void main(String[] args) {
         nothingToAlter();
+        whatIsNotThereHasNothingToAlter();
         theFirstIsLost();
         aCopyGoesToTheEnd();
         aFullRowTakesNoCopy();
@@ -22,13 +23,19 @@ public final class Promise05AlterTest {
                 CHECK.due("twice", link.alter(end, path, true), false);
             }
         }
-        link.open(12);
-        int[] wrong = {-1, 2};
-        for (int number : wrong) {
-            CHECK.due("no such end", link.alter(number, 0, false), false);
-            CHECK.due("no such path", link.alter(0, number, false), false);
+    }
+
+    private static void whatIsNotThereHasNothingToAlter() {
+        StreamLink link = Links.withPacketsInEveryRow();
+        for (int number : Links.NEITHER) {
+            for (int there = 0; there < 2; there++) {
+                CHECK.due("lose, no end " + number, link.alter(number, there, false), false);
+                CHECK.due("twice, no end " + number, link.alter(number, there, true), false);
+                CHECK.due("lose, no path " + number, link.alter(there, number, false), false);
+                CHECK.due("twice, no path " + number, link.alter(there, number, true), false);
+            }
         }
-        CHECK.due("nothing was lost", link.waiting(0, 0), 1);
+        CHECK.due("none was lost or came twice", Links.packetsUnderWay(link), 4);
     }
 
     private static void theFirstIsLost() {

@@ -142,11 +142,13 @@ public final class Promise14To16StateTest {
         for (int number : numbers) {
             CHECK.due("word " + number, link.word(0, number), 0);
         }
+        CHECK.due("the other end", link.word(1, 1), 0);
+        link.send(1, 0, false, 1, 1);
         for (int end : WRONG) {
             CHECK.due("end " + end, link.word(end, 1), 0);
         }
-        CHECK.due("the other end", link.word(1, 1), 0);
         CHECK.due("word 1", link.word(0, 1), 2);
+        CHECK.due("word 1 at end 1", link.word(1, 1), 2);
     }
 
     private static void wordGoesThroughItsStates() {
